@@ -46,6 +46,7 @@ public final class PromisesTest {
         promise31WriteMonk();
         promise32WriteDay();
         promise33WrittenByte();
+        fullHouse();
         Kit.end();
     }
 
@@ -81,6 +82,10 @@ public final class PromisesTest {
         Kit.due("2 to 799", x.append(-1, -1, -1, -1, 0x01010100), 799);
         Kit.throwsState("2 above 800", () -> x.append(0, 0, 0, 0, 0x01000001));
         Kit.throwsState("2 far above 800", () -> x.append(-1, -1, -1, -1, -1));
+        Kit.throwsState("2 above 800 by the 1st argument", () -> x.append(0x01000001, 0, 0, 0, 0));
+        Kit.throwsState("2 above 800 by the 2nd argument", () -> x.append(0, 0x01000001, 0, 0, 0));
+        Kit.throwsState("2 above 800 by the 3rd argument", () -> x.append(0, 0, 0x01000001, 0, 0));
+        Kit.throwsState("2 above 800 by the 4th argument", () -> x.append(0, 0, 0, 0x01000001, 0));
         Kit.due("2 nothing changed", x.append(0, 0, 0, 0, 0), 799);
         Kit.due("2 to 800", x.append(0, 0, 0x00ff0000, 0, 0), 800);
         Kit.throwsState("2 one above 800", () -> x.append(0, 0, 0, 0, 1));
@@ -109,6 +114,12 @@ public final class PromisesTest {
         }
         Kit.due("3 undone", x.undo(), 1);
         Kit.due("3 all as before", Kit.everything(x), before);
+        Kit.load(x, "need a 20;elder b;elder c;elder d;give c d 4;tell b c a voice;want b a;");
+        Kit.load(x, "need a 1;novice b;elder c;elder d;");
+        Kit.due("3 nothing is left of it", Kit.everything(x), Kit.everything(Kit.house("need a 1;novice b;elder c;elder d;")));
+        Kit.load(x, "need a 20;elder b;elder c;elder d;give c d 4;tell b c a voice;wait 0;");
+        Kit.load(x, "need a 1;novice b;elder c;elder d;");
+        Kit.due("3 nor of one with an error", Kit.everything(x), Kit.everything(Kit.house("need a 1;novice b;elder c;elder d;")));
         SilentMonks long800 = new SilentMonks();
         Kit.append(long800, HOUSE + " ".repeat(800 - HOUSE.length()));
         Kit.due("3 a text of 800 bytes", long800.load(), 4);
@@ -189,6 +200,8 @@ public final class PromisesTest {
                 Kit.due("7 monk " + monk + ", " + what, x.monk(monk, what), due[monk][what]);
             }
         }
+        Kit.due("7 the first one knows all signs, too",
+            Kit.house("need a 1;elder b a;novice c a;").monk(1, 7), 1);
         Kit.due("7 a long name", Kit.house("need a 1;elder bcdefg;").monk(0, 8), 6);
         x.pass(24);
         Kit.due("7 it did not break silence on the new day", x.monk(0, 4), 0);
@@ -279,6 +292,7 @@ public final class PromisesTest {
         why(x, 0, 1, 1, 2, new int[] {21, 12, 0});
         why(x, 1, 0, 2, 2, new int[] {22, 13, 2});
         why(x, 3, 0, 2, 2, new int[] {23, 20, 8});
+        why(Kit.house(HOUSE + "give el bo 1;"), 1, 0, 0, 2, new int[] {22, 1, 1});
         Kit.due("11 nothing changes", Kit.everything(x), before);
         for (int i = 0; i < 12; i++) {
             x.tell(2, 0, 2, 2);
@@ -326,6 +340,14 @@ public final class PromisesTest {
             x.pass(7);
             Kit.due("12 behind pass", x.gap(), 0);
         }
+        x.pass(99);
+        x.give(2, 0, 8);
+        x.pass(23);
+        Kit.due("12 with days that were kept", x.account(9) > 0, true);
+        Kit.due("12 behind days", x.gap(), 0);
+        SilentMonks leave = Kit.house(HOUSE + "give el bo 9;wait 24;give el bo 9;tell bo el salt voice;");
+        Kit.due("12 with leave that expired", leave.account(11), 9);
+        Kit.due("12 behind it", leave.gap(), 0);
         x.save(0);
         x.undo();
         Kit.due("12 behind undo", x.gap(), 0);
@@ -461,6 +483,13 @@ public final class PromisesTest {
     private static void promise19FreeIn() {
         SilentMonks x = Kit.house("need a 20;elder c;brother d;brother e;tell c d a voice;");
         Kit.due("19 none", x.freeIn(1), 0);
+        SilentMonks one = Kit.house("need a 1;brother c;brother d;wait 5;tell c d a voice;");
+        Kit.due("19 none at hour 5", one.freeIn(1), 0);
+        Kit.due("19 a day of fast behind the day of the breach", one.freeIn(0), 43);
+        one.pass(20);
+        Kit.due("19 a day of fast", one.freeIn(0), 23);
+        one.pass(23);
+        Kit.due("19 kept", one.freeIn(0), 0);
         Kit.due("19 behind the day of the breach", x.freeIn(0), 9 * 24);
         x.pass(23);
         Kit.due("19 an hour ahead of midnight", x.freeIn(0), 9 * 24 - 23);
@@ -480,6 +509,8 @@ public final class PromisesTest {
     private static void promise20BestBell() {
         Kit.due("20 without any", new SilentMonks().bestBell(), 0);
         Kit.due("20 behind the bell of silence", Kit.house("need a 1;elder b;bell 7 silence;").bestBell(), 7);
+        Kit.due("20 the first hours", Kit.house("need a 1;elder b;bell 1 silence;").bestBell(), 1);
+        Kit.due("20 the last hours", Kit.house("need a 1;elder b;bell 23 silence;").bestBell(), 23);
         Kit.due("20 always speech", Kit.house("need a 1;elder b;bell 7 speech;").bestBell(), 0);
         Kit.due("20 the longer silence",
             Kit.house("need a 1;elder b;bell 7 silence;bell 9 speech;bell 11 silence;bell 14 speech;").bestBell(), 11);
@@ -624,6 +655,12 @@ public final class PromisesTest {
 
     private static void promise24Give() {
         SilentMonks x = Kit.house("grant 50;" + HOUSE);
+        x.give(2, 1, 7);
+        Kit.due("24 undone", x.undo() + x.monk(2, 3) + x.monk(1, 1) + x.account(10), 1);
+        SilentMonks one = Kit.house(HOUSE + "tell el bo salt voice;wait 24;wait 24;");
+        Kit.due("24 one day of fast", one.give(2, 1, 1) + one.monk(2, 2), -16);
+        Kit.due("24 of the other one", one.give(3, 2, 1), -18);
+        Kit.due("24 no day of fast", one.pass(24) + one.give(2, 1, 1), 2);
         Kit.due("24 leave", x.give(2, 1, 7), 7);
         Kit.due("24 more leave", x.give(3, 1, 50), 57);
         Kit.due("24 of another elder", x.give(2, 3, 1), 1);
@@ -669,6 +706,8 @@ public final class PromisesTest {
         SilentMonks x = Kit.house("need a 20;need b 5;elder c;brother d;brother e;give c e 7;tell c d b voice;tell d c a voice;");
         Kit.due("25 no day", x.pass(23), 0);
         Kit.due("25 leave stays", x.monk(2, 1), 7);
+        Kit.due("25 undone", x.undo() + x.count(4), 1);
+        x.pass(23);
         Kit.due("25 a day", x.pass(1), 1);
         Kit.due("25 the day of the breach", x.count(10), 6);
         Kit.due("25 leave expires", x.count(9), 0);
@@ -882,5 +921,43 @@ public final class PromisesTest {
         for (int index : new int[] {-1, 3, 25, Integer.MIN_VALUE, Integer.MAX_VALUE}) {
             Kit.throwsIndex("33 index " + index, () -> x.writtenByte(index));
         }
+    }
+
+    /** Every call in a house with as many monks and needs as there may be, for its last monk and need. */
+    private static void fullHouse() {
+        StringBuilder text = new StringBuilder();
+        for (int need = 0; need < 8; need++) {
+            text.append("need ").append((char) ('a' + need)).append(" 20;");
+        }
+        for (int monk = 0; monk < 12; monk++) {
+            text.append("elder ").append((char) ('a' + monk)).append(" a b c d e f g h;");
+        }
+        SilentMonks x = Kit.house(text.toString());
+        for (int need = 0; need < 8; need++) {
+            Kit.due("full want", x.want(11, need), need + 1);
+        }
+        Kit.due("full wants", x.count(8), 8);
+        Kit.due("full signs", x.count(11), 96);
+        Kit.due("full monks who know", x.need(7, 1), 12);
+        Kit.due("full monks who want", x.need(7, 2), 1);
+        Kit.due("full others", x.monk(11, 7), 11);
+        Kit.due("full best hearer", x.bestHearer(), 0);
+        Kit.due("full best way", x.bestWay(11, 0, 7), 0);
+        Kit.due("full give", x.give(11, 10, 10), 10);
+        Kit.due("full tell", x.tell(11, 0, 7, 2), 8);
+        Kit.due("full why", x.why(11, 0, 7, 2, 1), 20);
+        Kit.due("full ranked 0", x.ranked(0), 11);
+        Kit.due("full ranked 1", x.ranked(1), 10);
+        Kit.due("full ranked 11", x.ranked(11), 9);
+        Kit.due("full ranked 12", x.ranked(12), SilentMonks.NONE);
+        Kit.due("full days", x.pass(48), 2);
+        Kit.due("full fast", x.fastIn(24), 6);
+        Kit.due("full free", x.freeIn(11), 7 * 24);
+        Kit.due("full fast of all", x.count(10), 7);
+        Kit.due("full text", Kit.monkText(x, 11), "l:a b c d e f g h/a b c d e f g");
+        Kit.throwsIndex("full monk 12", () -> x.monk(12, 0));
+        Kit.throwsIndex("full need 8", () -> x.need(8, 0));
+        Kit.throwsIndex("full has", () -> x.has(11, 8, false));
+        Kit.due("full gap", x.gap(), 0);
     }
 }
