@@ -13,10 +13,13 @@ import java.util.regex.Pattern;
 /** The class's face, held against the document's own words, and some rules of LANGUAGE.md that a text search sees. */
 public final class FaceTest {
 
+    /** What LANGUAGE.md rules out and a search finds; an exception of the machine may not be caught either. */
     private static final String[] FORBIDDEN = {
-        "->", "::", "\\bfinally\\b", "\\bsynchronized\\b", "\\bassert\\b", "\\bcatch\\b", "\\.getMessage", "Exact\\(",
-        "\\bimport (?!java\\.util\\.Arrays;)", "\\bSystem\\.(?!arraycopy)", "\\bRandom\\b", "\\bThread\\b",
-        "\\bequals\\(", "\\bhashCode\\b", "\\btoString\\b", "\\bstatic \\{", "\\bpackage\\b"};
+        "(?m)^(?!\\s*(case|default)\\b).*->", "::", "\\bfinally\\b", "\\bsynchronized\\b", "\\bassert\\b", "\\.getMessage",
+        "\\w+Exact\\(", "\\bimport (?!java\\.util\\.(Arrays|ArrayList|List|Iterator|NoSuchElementException);)",
+        "\\bSystem\\.(?!arraycopy)", "\\bRandom\\b", "\\bThread\\b", "\\bhashCode\\b", "\\bstatic \\{", "(?m)^\\s*package\\b",
+        "\\bcatch\\s*\\([^)]*\\b(Throwable|Error|Exception|ArrayIndexOutOfBoundsException|NullPointerException|ClassCastException"
+            + "|NegativeArraySizeException|ArrayStoreException)\\b"};
 
     public static void main(String[] args) throws Exception {
         String document = Files.readString(Path.of("../shared/DOC.md"));
@@ -99,9 +102,9 @@ public final class FaceTest {
         for (String rule : FORBIDDEN) {
             Kit.due("the source has " + rule, Pattern.compile(rule).matcher(code).find(), false);
         }
-        for (int i = 0; i < source.length(); i++) {
-            if (source.charAt(i) > 126) {
-                Kit.due("byte " + i + " of the source", source.charAt(i), "a sign of ASCII");
+        for (int i = 0; i < code.length(); i++) {
+            if (code.charAt(i) > 127) {
+                Kit.due("sign " + i + " of the code", code.charAt(i), "one of 1 to 127");
             }
         }
     }

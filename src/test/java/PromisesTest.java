@@ -51,7 +51,7 @@ public final class PromisesTest {
     }
 
     private static void promise01NewObject() {
-        SilentMonks x = new SilentMonks();
+        Run x = new Run();
         Kit.due("1 all", Kit.everything(x), Kit.everything(Kit.house("need a 1;elder b;")));
         int[] counts = {1, 1, 20, 10, 0, 0, 0, 0, 0, 0, 0, 0, 0};
         for (int what = 0; what < counts.length; what++) {
@@ -70,7 +70,7 @@ public final class PromisesTest {
     }
 
     private static void promise02Append() {
-        SilentMonks x = new SilentMonks();
+        Run x = new Run();
         Kit.due("2 nothing", x.append(0, 0, 0, 0, 0), 0);
         Kit.due("2 zeros are left out", x.append(0x6e006500, 0x00650064, 0, 0x00002000, 0x61), 6);
         Kit.due("2 the rest", x.append(0x20313b65, 0x6c646572, 0x2062203b, 0, 0), 18);
@@ -95,7 +95,7 @@ public final class PromisesTest {
     }
 
     private static void promise03Load() {
-        SilentMonks x = Kit.house(HOUSE + "bell 3 speech;want nil salt;tell nil bo milk voice;wait 30;");
+        Run x = Kit.house(HOUSE + "bell 3 speech;want nil salt;tell nil bo milk voice;wait 30;");
         String before = Kit.everything(x);
         Kit.due("3 an error", Kit.load(x, "need q 2;elder r;wait 0;"), SilentMonks.VALUE_ERROR);
         Kit.due("3 all stays", Kit.everything(x), before);
@@ -120,7 +120,7 @@ public final class PromisesTest {
         Kit.load(x, "need a 20;elder b;elder c;elder d;give c d 4;tell b c a voice;wait 0;");
         Kit.load(x, "need a 1;novice b;elder c;elder d;");
         Kit.due("3 nor of one with an error", Kit.everything(x), Kit.everything(Kit.house("need a 1;novice b;elder c;elder d;")));
-        SilentMonks long800 = new SilentMonks();
+        Run long800 = new Run();
         Kit.append(long800, HOUSE + " ".repeat(800 - HOUSE.length()));
         Kit.due("3 a text of 800 bytes", long800.load(), 4);
         long800.save(0);
@@ -129,7 +129,7 @@ public final class PromisesTest {
     }
 
     private static void promise04ErrorPosition() {
-        SilentMonks x = new SilentMonks();
+        Run x = new Run();
         Kit.load(x, "need a 1;elder b;  x");
         Kit.due("4 an error", x.errorPosition(), 19);
         x.pass(1);
@@ -144,7 +144,7 @@ public final class PromisesTest {
     }
 
     private static void promise05Count() {
-        SilentMonks x = Kit.house("paper 9;grant 8;" + HOUSE + "bell 5 speech;bell 9 silence;bell 20 silence;"
+        Run x = Kit.house("paper 9;grant 8;" + HOUSE + "bell 5 speech;bell 9 silence;bell 20 silence;"
             + "want nil salt;want bo salt;want bo milk;give el bo 5;give old nil 3;tell old el milk voice;wait 6;");
         int[] due = {4, 3, 9, 8, 6, 1, 3, 4, 3, 8, 6, 6, 1};
         for (int what = 0; what < due.length; what++) {
@@ -155,7 +155,7 @@ public final class PromisesTest {
         x.undo();
         x.pass(2);
         Kit.due("5 speech in the hour ahead of it", x.count(5), 1);
-        SilentMonks night = Kit.house("need a 1;elder b;bell 22 speech;bell 2 silence;");
+        Run night = Kit.house("need a 1;elder b;bell 22 speech;bell 2 silence;");
         Kit.due("5 speech over midnight", night.count(7), 4);
         Kit.due("5 speech at hour 0", night.count(5), 1);
         Kit.due("5 only silence", Kit.house("need a 1;elder b;bell 22 silence;").count(7), 0);
@@ -170,7 +170,7 @@ public final class PromisesTest {
         // The novice's milk is 6 words by leave and 6 in a breach (2 days), the elder's bread 20 in a breach (8 days);
         // the brother's salt is spoken by the bell of midday. The midnights are at 24, 48, 72 and 96: the first one
         // ends the day of the breaches, the others find 2 + 8, 1 + 7 and 0 + 6 days.
-        SilentMonks x = Kit.house(HOUSE + "bell 12 speech;bell 0 silence;"
+        Run x = Kit.house(HOUSE + "bell 12 speech;bell 0 silence;"
             + "want nil salt;tell nil bo salt sign;tell nil bo salt slip;give el nil 6;tell nil bo milk voice;"
             + "tell old el bread voice;tell bo nil milk slip;wait 11;give el bo 4;wait 1;tell bo nil salt voice;wait 99;");
         int[] due = {1, 2, 3, 4, 4, 6, 26, 2, 10, 5, 10, 4, 1, 1};
@@ -188,7 +188,7 @@ public final class PromisesTest {
     }
 
     private static void promise07Monk() {
-        SilentMonks x = Kit.house(HOUSE + "bell 20 silence;want bo bread;want bo salt;give el bo 3;give old bo 2;give el nil 5;"
+        Run x = Kit.house(HOUSE + "bell 20 silence;want bo bread;want bo salt;give el bo 3;give old bo 2;give el nil 5;"
             + "tell nil old milk voice;");
         int[][] due = {
             {0, 0, 2, 0, 1, 1, 0, 2, 3},
@@ -220,7 +220,7 @@ public final class PromisesTest {
     }
 
     private static void promise08Need() {
-        SilentMonks x = Kit.house(
+        Run x = Kit.house(
             "need a 1;need b 5;need c 6;need d 10;need e 11;need f 15;need g 16;need h 20;"
             + "novice i a b;brother j a;elder k a;want i h;want j h;want j g;");
         int[][] due = {
@@ -238,11 +238,11 @@ public final class PromisesTest {
         }
         Kit.throwsIndex("8 need 8", () -> x.need(8, 0));
         Kit.throwsArgument("8 what 5", () -> x.need(7, 5));
-        Kit.throwsIndex("8 need 1 of 1", () -> new SilentMonks().need(1, 0));
+        Kit.throwsIndex("8 need 1 of 1", () -> new Run().need(1, 0));
     }
 
     private static void promise09Has() {
-        SilentMonks x = Kit.house(HOUSE + "want nil bread;want old salt;");
+        Run x = Kit.house(HOUSE + "want nil bread;want old salt;");
         boolean[][] knows = {{true, false, false}, {true, true, false}, {true, true, true}, {false, false, false}};
         for (int monk = 0; monk < 4; monk++) {
             for (int need = 0; need < 3; need++) {
@@ -259,7 +259,7 @@ public final class PromisesTest {
     }
 
     private static void promise10Bell() {
-        SilentMonks x = Kit.house(HOUSE + "bell 0 speech;bell 23 silence;bell 7 speech;bell 7 silence;bell 8 silence;bell 8 speech;");
+        Run x = Kit.house(HOUSE + "bell 0 speech;bell 23 silence;bell 7 speech;bell 7 silence;bell 8 silence;bell 8 speech;");
         for (int hour = 0; hour < 24; hour++) {
             int due = hour == 0 || hour == 8 ? 2 : hour == 7 || hour == 23 ? 1 : 0;
             Kit.due("10 hour " + hour, x.bell(hour), due);
@@ -271,14 +271,14 @@ public final class PromisesTest {
         Kit.throwsIndex("10 hour 24", () -> x.bell(24));
     }
 
-    private static void why(SilentMonks x, int from, int to, int need, int way, int[] due) {
+    private static void why(Run x, int from, int to, int need, int way, int[] due) {
         for (int depth = 0; depth <= 2; depth++) {
             Kit.due("11 why " + from + to + need + way + depth, x.why(from, to, need, way, depth), due[depth]);
         }
     }
 
     private static void promise11Why() {
-        SilentMonks x = Kit.house("paper 3;grant 50;" + HOUSE + "give el bo 13;give el nil 12;");
+        Run x = Kit.house("paper 3;grant 50;" + HOUSE + "give el bo 13;give el nil 12;");
         String before = Kit.everything(x);
         why(x, 3, 1, 0, 0, new int[] {2, 3, -1});
         why(x, 3, 0, 2, 0, new int[] {2, 3, -1});
@@ -310,7 +310,7 @@ public final class PromisesTest {
     }
 
     private static void promise11WhyWrong() {
-        SilentMonks x = Kit.house(HOUSE);
+        Run x = Kit.house(HOUSE);
         for (int wrong : WRONG) {
             Kit.throwsIndex("11 from " + wrong, () -> x.why(wrong, 0, 0, 9, 9));
             Kit.throwsIndex("11 to " + wrong, () -> x.why(0, wrong, 0, 9, 9));
@@ -326,7 +326,7 @@ public final class PromisesTest {
     }
 
     private static void promise12Gap() {
-        SilentMonks x = new SilentMonks();
+        Run x = new Run();
         Kit.due("12 at first", x.gap(), 0);
         Kit.load(x, HOUSE + "bell 9 speech;bell 11 silence;");
         int[][] tells = {{0, 1, 1}, {1, 0, 0}, {2, 3, 2}, {3, 2, 1}};
@@ -345,7 +345,7 @@ public final class PromisesTest {
         x.pass(23);
         Kit.due("12 with days that were kept", x.account(9) > 0, true);
         Kit.due("12 behind days", x.gap(), 0);
-        SilentMonks leave = Kit.house(HOUSE + "give el bo 9;wait 24;give el bo 9;tell bo el salt voice;");
+        Run leave = Kit.house(HOUSE + "give el bo 9;wait 24;give el bo 9;tell bo el salt voice;");
         Kit.due("12 with leave that expired", leave.account(11), 9);
         Kit.due("12 behind it", leave.gap(), 0);
         x.save(0);
@@ -358,8 +358,8 @@ public final class PromisesTest {
     }
 
     private static void promise13MeanFast() {
-        Kit.due("13 at first", new SilentMonks().meanFast(), 0.0);
-        SilentMonks x = Kit.house("need a 20;need b 1;brother c;brother d;elder e;tell c d a voice;tell d c b voice;");
+        Kit.due("13 at first", new Run().meanFast(), 0.0);
+        Run x = Kit.house("need a 20;need b 1;brother c;brother d;elder e;tell c d a voice;tell d c b voice;");
         Kit.due("13 thirds", x.meanFast(), 5.0 / 3.0);
         x.pass(24);
         x.pass(24);
@@ -367,8 +367,8 @@ public final class PromisesTest {
     }
 
     private static void promise14BreachShare() {
-        Kit.due("14 without any", new SilentMonks().breachShare(), 0.0f);
-        SilentMonks x = Kit.house("need a 3;need b 7;brother c;brother d;elder e;bell 1 speech;bell 0 silence;"
+        Kit.due("14 without any", new Run().breachShare(), 0.0f);
+        Run x = Kit.house("need a 3;need b 7;brother c;brother d;elder e;bell 1 speech;bell 0 silence;"
             + "give e c 5;tell c d a voice;");
         Kit.due("14 by leave alone", x.breachShare(), 0.0f);
         x.tell(0, 1, 1, 2);
@@ -385,7 +385,7 @@ public final class PromisesTest {
     }
 
     private static void promise15Ranked() {
-        SilentMonks x = Kit.house("need a 5;need b 10;elder z;brother c;brother d;brother e;brother f;brother g;"
+        Run x = Kit.house("need a 5;need b 10;elder z;brother c;brother d;brother e;brother f;brother g;"
             + "give z e 4;give z f 6;tell d c b voice;tell g c a voice;tell c d a voice;");
         int[] due = {2, 1, 5, 4, 3, 0};
         for (int place = 0; place < due.length; place++) {
@@ -395,15 +395,15 @@ public final class PromisesTest {
         for (int place : WRONG) {
             Kit.due("15 place " + place, x.ranked(place), SilentMonks.NONE);
         }
-        Kit.due("15 the only one", new SilentMonks().ranked(0), 0);
-        SilentMonks leaveToo = Kit.house("need a 5;elder z;brother c;brother d;give z d 9;tell c d a voice;tell d c a voice;");
+        Kit.due("15 the only one", new Run().ranked(0), 0);
+        Run leaveToo = Kit.house("need a 5;elder z;brother c;brother d;give z d 9;tell c d a voice;tell d c a voice;");
         Kit.due("15 fast ahead of leave", leaveToo.ranked(0), 1);
         Kit.due("15 leave behind fast", leaveToo.ranked(1), 2);
         Kit.due("15 the lowest one last", leaveToo.ranked(2), 0);
     }
 
     private static void promise16BestWay() {
-        SilentMonks x = Kit.house("grant 50;" + HOUSE + "bell 12 speech;bell 0 silence;give el bo 3;give el nil 6;");
+        Run x = Kit.house("grant 50;" + HOUSE + "bell 12 speech;bell 0 silence;give el bo 3;give el nil 6;");
         String before = Kit.everything(x);
         Kit.due("16 a sign", x.bestWay(1, 0, 0), 0);
         Kit.due("16 a slip for 3 ahead of 4 words of leave", Kit.house(HOUSE + "give el bo 9;").bestWay(1, 3, 0), 1);
@@ -419,7 +419,7 @@ public final class PromisesTest {
         x.pass(12);
         Kit.due("16 by the bell", x.bestWay(1, 3, 0), 2);
         Kit.due("16 a sign ahead of the bell", x.bestWay(1, 0, 0), 0);
-        SilentMonks full = Kit.house("paper 0;need a 20;elder b;elder c;");
+        Run full = Kit.house("paper 0;need a 20;elder b;elder c;");
         for (int i = 0; i < 12; i++) {
             Kit.due("16 by voice alone", full.bestWay(0, 1, 0), 2);
             full.tell(0, 1, 0, 2);
@@ -439,8 +439,8 @@ public final class PromisesTest {
     }
 
     private static void promise17SpeechIn() {
-        Kit.due("17 no bell", new SilentMonks().speechIn(), SilentMonks.NONE);
-        SilentMonks x = Kit.house("need a 1;elder b;bell 6 silence;");
+        Kit.due("17 no bell", new Run().speechIn(), SilentMonks.NONE);
+        Run x = Kit.house("need a 1;elder b;bell 6 silence;");
         Kit.due("17 only silence", x.speechIn(), SilentMonks.NONE);
         x.setBell(5, 2);
         Kit.due("17 in five hours", x.speechIn(), 5);
@@ -450,20 +450,13 @@ public final class PromisesTest {
         Kit.due("17 tomorrow", x.speechIn(), 23);
         x.setBell(3, 2);
         Kit.due("17 the nearest one", x.speechIn(), 21);
-        passTo(x, 9999);
+        Kit.passTo(x, 9999);
         x.setBell(15, 1);
         Kit.due("17 behind the TIME 9999", x.speechIn(), 12);
     }
 
-    /** Lets hours go by until TIME is what it shall be. */
-    private static void passTo(SilentMonks x, int time) {
-        while (x.count(4) < time) {
-            x.pass(Math.min(99, time - x.count(4)));
-        }
-    }
-
     private static void promise18FastIn() {
-        SilentMonks x = Kit.house("need a 20;need b 1;elder c;brother d;brother e;tell c d a voice;wait 30;tell d c b voice;");
+        Run x = Kit.house("need a 20;need b 1;elder c;brother d;brother e;tell c d a voice;wait 30;tell d c b voice;");
         Kit.due("18 now", x.fastIn(0), 9);
         int[][] due = {{17, 9}, {18, 8}, {41, 8}, {42, 6}, {66, 5}, {186, 0}, {185, 1}, {999, 0}};
         for (int[] pair : due) {
@@ -473,17 +466,17 @@ public final class PromisesTest {
         for (int hours : new int[] {-1, 1000, Integer.MIN_VALUE, Integer.MAX_VALUE}) {
             Kit.throwsArgument("18 hours " + hours, () -> x.fastIn(hours));
         }
-        SilentMonks late = Kit.house("need a 1;elder c;brother d;");
-        passTo(late, 9999);
+        Run late = Kit.house("need a 1;elder c;brother d;");
+        Kit.passTo(late, 9999);
         late.tell(0, 1, 0, 2);
         Kit.due("18 behind the TIME 9999, the day of the breach", late.fastIn(9), 2);
         Kit.due("18 behind the TIME 9999, a day later", late.fastIn(33), 1);
     }
 
     private static void promise19FreeIn() {
-        SilentMonks x = Kit.house("need a 20;elder c;brother d;brother e;tell c d a voice;");
+        Run x = Kit.house("need a 20;elder c;brother d;brother e;tell c d a voice;");
         Kit.due("19 none", x.freeIn(1), 0);
-        SilentMonks one = Kit.house("need a 1;brother c;brother d;wait 5;tell c d a voice;");
+        Run one = Kit.house("need a 1;brother c;brother d;wait 5;tell c d a voice;");
         Kit.due("19 none at hour 5", one.freeIn(1), 0);
         Kit.due("19 a day of fast behind the day of the breach", one.freeIn(0), 43);
         one.pass(20);
@@ -497,7 +490,7 @@ public final class PromisesTest {
         Kit.due("19 at midnight", x.freeIn(0), 8 * 24);
         x.tell(0, 1, 0, 2);
         Kit.due("19 twice", x.freeIn(0), 17 * 24);
-        passTo(x, 9999);
+        Kit.passTo(x, 9999);
         x.tell(0, 1, 0, 2);
         Kit.due("19 behind the TIME 9999", x.freeIn(0), 9 + 8 * 24);
         for (int wrong : WRONG) {
@@ -507,7 +500,7 @@ public final class PromisesTest {
     }
 
     private static void promise20BestBell() {
-        Kit.due("20 without any", new SilentMonks().bestBell(), 0);
+        Kit.due("20 without any", new Run().bestBell(), 0);
         Kit.due("20 behind the bell of silence", Kit.house("need a 1;elder b;bell 7 silence;").bestBell(), 7);
         Kit.due("20 the first hours", Kit.house("need a 1;elder b;bell 1 silence;").bestBell(), 1);
         Kit.due("20 the last hours", Kit.house("need a 1;elder b;bell 23 silence;").bestBell(), 23);
@@ -518,13 +511,13 @@ public final class PromisesTest {
             Kit.house("need a 1;elder b;bell 7 silence;bell 9 speech;bell 11 silence;bell 13 speech;").bestBell(), 7);
         Kit.due("20 over midnight",
             Kit.house("need a 1;elder b;bell 22 silence;bell 3 speech;bell 10 silence;bell 12 speech;").bestBell(), 22);
-        SilentMonks x = Kit.house("need a 1;elder b;bell 23 silence;bell 2 silence;");
+        Run x = Kit.house("need a 1;elder b;bell 23 silence;bell 2 silence;");
         Kit.due("20 two of silence", x.bestBell(), 2);
         Kit.due("20 nothing changes", x.count(6) + x.bell(2), 3);
     }
 
     private static void promise21BestHearer() {
-        Kit.due("21 the only one", new SilentMonks().bestHearer(), 0);
+        Kit.due("21 the only one", new Run().bestHearer(), 0);
         Kit.due("21 no wants", Kit.house(HOUSE).bestHearer(), 0);
         Kit.due("21 the wants of novices and brothers",
             Kit.house(HOUSE + "want nil salt;want bo milk;want bo salt;").bestHearer(), 2);
@@ -535,13 +528,13 @@ public final class PromisesTest {
         Kit.due("21 the lowest one", Kit.house("need a 1;brother b a;elder c a;elder d a;want b a;").bestHearer(), 1);
         Kit.due("21 most wants, not most monks", Kit.house("need a 1;need e 1;need f 1;need h 1;novice b a e f h;"
             + "novice c a;brother d a;brother g e f h;want b a;want c a;want b e;want b f;want b h;").bestHearer(), 3);
-        SilentMonks x = Kit.house(HOUSE + "want nil salt;");
+        Run x = Kit.house(HOUSE + "want nil salt;");
         x.bestHearer();
         Kit.due("21 nothing changes", x.count(8), 1);
     }
 
     private static void promise22Want() {
-        SilentMonks x = Kit.house(HOUSE);
+        Run x = Kit.house(HOUSE);
         Kit.due("22 one", x.want(0, 1), 1);
         Kit.due("22 two", x.want(0, 0), 2);
         String before = Kit.everything(x);
@@ -560,7 +553,7 @@ public final class PromisesTest {
     }
 
     private static void promise23TellBySign() {
-        SilentMonks x = Kit.house(HOUSE + "want nil salt;want el salt;");
+        Run x = Kit.house(HOUSE + "want nil salt;want el salt;");
         Kit.due("23 both know one", x.tell(0, 2, 0, 0), 1);
         Kit.due("23 the want is met", x.has(0, 0, true), false);
         Kit.due("23 both know two", x.tell(2, 1, 0, 0), 2);
@@ -574,7 +567,7 @@ public final class PromisesTest {
     }
 
     private static void promise23TellBySlip() {
-        SilentMonks x = Kit.house("paper 7;" + HOUSE + "want bo milk;want bo bread;want bo salt;want old milk;");
+        Run x = Kit.house("paper 7;" + HOUSE + "want bo milk;want bo bread;want bo salt;want old milk;");
         Kit.due("23 a brother's page", x.tell(1, 0, 0, 1), 1);
         Kit.due("23 a novice meets no want of a brother", x.has(1, 0, true), true);
         Kit.due("23 two pages", x.tell(1, 3, 1, 1), 2);
@@ -601,7 +594,7 @@ public final class PromisesTest {
     }
 
     private static void promise23TellByVoice() {
-        SilentMonks x = Kit.house("grant 50;" + HOUSE + "bell 12 speech;bell 13 silence;give el bo 15;give el old 5;want bo milk;");
+        Run x = Kit.house("grant 50;" + HOUSE + "bell 12 speech;bell 13 silence;give el bo 15;give el old 5;want bo milk;");
         Kit.due("23 by leave", x.tell(1, 2, 1, 2), 0);
         Kit.due("23 leave that is left", x.monk(1, 1), 3);
         Kit.due("23 no breach", x.monk(1, 4), 0);
@@ -626,7 +619,7 @@ public final class PromisesTest {
         Kit.due("23 refused words change nothing", Kit.everything(x), before);
         Kit.due("23 to 98", x.tell(2, 0, 0, 2), 2);
         Kit.due("23 to 100", x.tell(2, 0, 0, 2), -15);
-        SilentMonks brother = Kit.house("need a 20;need b 11;need c 1;brother d;brother e;");
+        Run brother = Kit.house("need a 20;need b 11;need c 1;brother d;brother e;");
         for (int i = 0; i < 24; i++) {
             brother.tell(0, 1, 0, 2);
         }
@@ -638,7 +631,7 @@ public final class PromisesTest {
     }
 
     private static void promise23TellWrong() {
-        SilentMonks x = Kit.house(HOUSE);
+        Run x = Kit.house(HOUSE);
         String before = Kit.everything(x);
         for (int wrong : WRONG) {
             Kit.throwsIndex("23 from " + wrong, () -> x.tell(wrong, 0, 0, 9));
@@ -654,10 +647,10 @@ public final class PromisesTest {
     }
 
     private static void promise24Give() {
-        SilentMonks x = Kit.house("grant 50;" + HOUSE);
+        Run x = Kit.house("grant 50;" + HOUSE);
         x.give(2, 1, 7);
         Kit.due("24 undone", x.undo() + x.monk(2, 3) + x.monk(1, 1) + x.account(10), 1);
-        SilentMonks one = Kit.house(HOUSE + "tell el bo salt voice;wait 24;wait 24;");
+        Run one = Kit.house(HOUSE + "tell el bo salt voice;wait 24;wait 24;");
         Kit.due("24 one day of fast", one.give(2, 1, 1) + one.monk(2, 2), -16);
         Kit.due("24 of the other one", one.give(3, 2, 1), -18);
         Kit.due("24 no day of fast", one.pass(24) + one.give(2, 1, 1), 2);
@@ -703,7 +696,7 @@ public final class PromisesTest {
     }
 
     private static void promise25Pass() {
-        SilentMonks x = Kit.house("need a 20;need b 5;elder c;brother d;brother e;give c e 7;tell c d b voice;tell d c a voice;");
+        Run x = Kit.house("need a 20;need b 5;elder c;brother d;brother e;give c e 7;tell c d b voice;tell d c a voice;");
         Kit.due("25 no day", x.pass(23), 0);
         Kit.due("25 leave stays", x.monk(2, 1), 7);
         Kit.due("25 undone", x.undo() + x.count(4), 1);
@@ -716,7 +709,7 @@ public final class PromisesTest {
         Kit.due("25 kept", x.count(10), 0);
         Kit.due("25 kept, no more than there were", x.account(9), 6);
         Kit.due("25 three hours to midnight", x.pass(21), 1);
-        passTo(x, 9950);
+        Kit.passTo(x, 9950);
         String before = Kit.everything(x);
         Kit.due("25 above 9999", x.pass(50), -21);
         Kit.due("25 nothing changes", Kit.everything(x), before);
@@ -729,7 +722,7 @@ public final class PromisesTest {
     }
 
     private static void promise26SetBell() {
-        SilentMonks x = new SilentMonks();
+        Run x = new Run();
         Kit.due("26 none before", x.setBell(23, 2), 0);
         Kit.due("26 speech all day", x.count(7), 24);
         Kit.due("26 speech before", x.setBell(23, 1), 2);
@@ -749,7 +742,7 @@ public final class PromisesTest {
     }
 
     private static void promise27Set() {
-        SilentMonks x = new SilentMonks();
+        Run x = new Run();
         Kit.due("27 paper before", x.set(2, 99), 20);
         Kit.due("27 grant before", x.set(3, 50), 10);
         Kit.due("27 paper 99", x.set(2, 0), 99);
@@ -772,7 +765,7 @@ public final class PromisesTest {
     }
 
     private static void promise28Undo() {
-        SilentMonks x = Kit.house(HOUSE);
+        Run x = Kit.house(HOUSE);
         x.undo();
         Kit.throwsState("28 nothing", () -> x.undo());
         Kit.load(x, HOUSE + "bell 5 silence;");
@@ -804,7 +797,7 @@ public final class PromisesTest {
     }
 
     /** Twelve changes of all sorts. */
-    private static void change(SilentMonks x, int i) {
+    private static void change(Run x, int i) {
         switch (i % 12) {
             case 0: x.want(0, 0); break;
             case 1: x.tell(0, 2, 0, 0); break;
@@ -822,7 +815,7 @@ public final class PromisesTest {
     }
 
     private static void promise29Save() {
-        SilentMonks x = Kit.house(HOUSE);
+        Run x = Kit.house(HOUSE);
         x.pass(5);
         String first = Kit.everything(x);
         x.save(0);
@@ -844,7 +837,7 @@ public final class PromisesTest {
     }
 
     private static void promise30Restore() {
-        SilentMonks x = Kit.house(HOUSE + "wait 3;");
+        Run x = Kit.house(HOUSE + "wait 3;");
         Kit.throwsState("30 nothing saved", () -> x.restore(0));
         x.save(0);
         Kit.throwsState("30 nothing saved there", () -> x.restore(1));
@@ -872,14 +865,14 @@ public final class PromisesTest {
     }
 
     private static void promise31WriteMonk() {
-        SilentMonks x = Kit.house("need zzzzzz 4;need m 12;need abcdef 20;novice nil;brother brotha abcdef zzzzzz;"
+        Run x = Kit.house("need zzzzzz 4;need m 12;need abcdef 20;novice nil;brother brotha abcdef zzzzzz;"
             + "elder elder m;want brotha m;want brotha abcdef;want nil zzzzzz;");
         Kit.due("31 no signs", Kit.monkText(x, 0), "nil:/zzzzzz");
         Kit.due("31 by their numbers", Kit.monkText(x, 1), "brotha:zzzzzz abcdef/m abcdef");
         Kit.due("31 no wants", Kit.monkText(x, 2), "elder:m/");
         x.want(2, 1);
         Kit.due("31 in place of what was written", x.writtenByte(7), 47);
-        SilentMonks longest = Kit.house("need aaaaaa 1;need bbbbbb 1;need cccccc 1;need dddddd 1;need eeeeee 1;need ffffff 1;"
+        Run longest = Kit.house("need aaaaaa 1;need bbbbbb 1;need cccccc 1;need dddddd 1;need eeeeee 1;need ffffff 1;"
             + "need gggggg 1;need hhhhhh 1;elder iiiiii aaaaaa bbbbbb cccccc dddddd eeeeee ffffff gggggg hhhhhh;"
             + "want iiiiii aaaaaa;want iiiiii bbbbbb;want iiiiii cccccc;want iiiiii dddddd;want iiiiii eeeeee;"
             + "want iiiiii ffffff;want iiiiii gggggg;want iiiiii hhhhhh;");
@@ -893,7 +886,7 @@ public final class PromisesTest {
     }
 
     private static void promise32WriteDay() {
-        SilentMonks x = new SilentMonks();
+        Run x = new Run();
         Kit.due("32 no bell", Kit.dayText(x), "......................../0");
         x.setBell(3, 2);
         Kit.due("32 speech alone", Kit.dayText(x), "ssssssssssssssssssssssss/0");
@@ -902,15 +895,15 @@ public final class PromisesTest {
         x.setBell(22, 2);
         x.pass(10);
         Kit.due("32 over midnight", Kit.dayText(x), "sssss.................ss/10");
-        passTo(x, 1005);
+        Kit.passTo(x, 1005);
         Kit.due("32 zeros in TIME", Kit.dayText(x), "sssss.................ss/1005");
-        passTo(x, 9999);
+        Kit.passTo(x, 9999);
         Kit.due("32 the last hour", Kit.dayText(x), "sssss.................ss/9999");
         Kit.due("32 the length", x.writeDay(), 29);
     }
 
     private static void promise33WrittenByte() {
-        SilentMonks x = new SilentMonks();
+        Run x = new Run();
         Kit.throwsIndex("33 none at first", () -> x.writtenByte(0));
         Kit.due("33 the length", x.writeDay(), 26);
         Kit.due("33 the first", x.writtenByte(0), 46);
@@ -932,7 +925,7 @@ public final class PromisesTest {
         for (int monk = 0; monk < 12; monk++) {
             text.append("elder ").append((char) ('a' + monk)).append(" a b c d e f g h;");
         }
-        SilentMonks x = Kit.house(text.toString());
+        Run x = Kit.house(text.toString());
         for (int need = 0; need < 8; need++) {
             Kit.due("full want", x.want(11, need), need + 1);
         }

@@ -1,19 +1,22 @@
 import java.util.ArrayList;
 import java.util.List;
 import java.util.Random;
+import java.util.function.Function;
+import java.util.function.Supplier;
 
-/** Long runs of calls, the same ones each time, on the class and on the model of it: all answers must be the same. */
+/** Runs of calls, the same ones each time, on the class and on the model of it: all answers must be the same. */
 public final class RunsTest {
 
     private static final int RUNS = 250;
-    private static final int CHANGES = 150;
+    /** A run ends behind so many calls that may change something: with those that look, it stays within 512. */
+    private static final int CHANGES = 300;
     private static final int TEXTS = 30000;
     private static final String[] STRANGE = {
         "need", "novice", "brother", "elder", "bell", "speech", "silence", "want", "tell", "give", "wait", "sign", "slip",
         "voice", "paper", "grant", ";", "0", "7", "24", "51", "100", "a", "b", "zz", "abcdefg", "?", "A", "-"};
 
     private final Random random;
-    private SilentMonks x = new SilentMonks();
+    private Run x = new Run();
     private Model model = new Model();
     private String run;
 
@@ -108,8 +111,9 @@ public final class RunsTest {
 
     private void brokenTexts() {
         for (int i = 0; i < TEXTS; i++) {
-            if (i % 200 == 0) {
-                x = new SilentMonks();
+            if (x.changingCalls() > CHANGES) {
+                sameEverything();
+                x = new Run();
                 model = new Model();
             }
             List<String> tokens = rightText();
@@ -133,21 +137,22 @@ public final class RunsTest {
 
     private void runOfChanges() {
         loadBoth(joined(rightText()));
-        for (int i = 0; i < CHANGES; i++) {
+        while (x.changingCalls() < CHANGES) {
             oneChange();
-            if (i % 10 == 0) {
+            sameForesight();
+            if (below(10) == 0) {
                 sameEverything();
             }
-            sameForesight();
         }
         sameEverything();
     }
 
     private void runOfWildCalls() {
         loadBoth(joined(rightText()));
-        for (int i = 0; i < CHANGES; i++) {
+        while (x.changingCalls() < CHANGES) {
             oneChange();
-            wildCalls();
+            wildLooks();
+            wildChanges();
         }
         sameEverything();
     }
@@ -228,12 +233,17 @@ public final class RunsTest {
 
     // ---- what both answer
 
-    private void sameEverything() {
-        int monks = model.count(0);
-        int needs = model.count(1);
+    private void sameCounts() {
         for (int what = 0; what <= 12; what++) {
             Kit.due(run + " count " + what, x.count(what), model.count(what));
         }
+    }
+
+    private void sameEverything() {
+        int monks = model.count(0);
+        int needs = model.count(1);
+        Run texts = x.again();
+        sameCounts();
         for (int what = 0; what <= 13; what++) {
             Kit.due(run + " account " + what, x.account(what), model.now.accounts[what]);
         }
@@ -241,7 +251,7 @@ public final class RunsTest {
             for (int what = 0; what <= 8; what++) {
                 Kit.due(run + " monk " + what, x.monk(monk, what), model.monk(monk, what));
             }
-            Kit.due(run + " writeMonk", Kit.monkText(x, monk), model.monkText(monk));
+            Kit.due(run + " writeMonk", Kit.monkText(texts, monk), model.monkText(monk));
             Kit.due(run + " freeIn", x.freeIn(monk), model.freeIn(monk));
             Kit.due(run + " ranked", x.ranked(monk), model.ranked(monk));
         }
@@ -250,7 +260,7 @@ public final class RunsTest {
                 Kit.due(run + " need " + what, x.need(need, what), model.need(need, what));
             }
         }
-        Kit.due(run + " writeDay", Kit.dayText(x), model.dayText());
+        Kit.due(run + " writeDay", Kit.dayText(texts), model.dayText());
         Kit.due(run + " meanFast", x.meanFast(), (double) model.count(10) / (double) monks);
         int[] accounts = model.now.accounts;
         int spoken = accounts[4] + accounts[5] + accounts[6];
@@ -300,8 +310,7 @@ public final class RunsTest {
         return !isIndexRight ? "IndexOutOfBoundsException" : !isArgumentRight ? "IllegalArgumentException" : "nothing";
     }
 
-    /** Calls with any arguments; what they change, if they are right ones, is brought back. */
-    private void wildCalls() {
+    private void wildLooks() {
         int from = wild(model.count(0));
         int to = wild(model.count(0));
         int need = wild(model.count(1));
@@ -312,7 +321,6 @@ public final class RunsTest {
         boolean isTo = isIn(to, 0, model.count(0) - 1);
         boolean isNeed = isIn(need, 0, model.count(1) - 1);
         boolean isTwo = from != to;
-        String all = Kit.everything(x);
         wildDue("count", () -> x.count(number * 4), thrown(true, isIn(number * 4, 0, 12)));
         wildDue("account", () -> x.account(number * 4), thrown(true, isIn(number * 4, 0, 13)));
         wildDue("monk", () -> x.monk(from, number * 3), thrown(isFrom, isIn(number * 3, 0, 8)));
@@ -326,38 +334,50 @@ public final class RunsTest {
         wildDue("freeIn", () -> x.freeIn(from), thrown(isFrom, true));
         wildDue("writeMonk", () -> x.writeMonk(from), thrown(isFrom, true));
         Kit.due(run + " ranked", x.ranked(from), model.ranked(from));
-        Kit.due(run + " behind what changes nothing", Kit.everything(x), all);
-        x.save(0);
-        model.save(0);
-        wildChange("want", () -> x.want(from, need), thrown(isFrom && isNeed, true));
-        wildChange("tell", () -> x.tell(from, to, need, number), thrown(isFrom && isTo && isNeed, isTwo && isIn(number, 0, 2)));
-        wildChange("give", () -> x.give(from, to, number * 20), thrown(isFrom && isTo, isTwo && isIn(number * 20, 1, 50)));
-        wildChange("pass", () -> x.pass(hour * 5), thrown(true, isIn(hour * 5, 1, 99)));
-        wildChange("setBell", () -> x.setBell(hour, depth), thrown(isIn(hour, 0, 23), isIn(depth, 0, 2)));
-        wildChange("set", () -> x.set(number, hour * 3),
-            thrown(true, number == 2 && isIn(hour * 3, 0, 99) || number == 3 && isIn(hour * 3, 0, 50)));
-        wildDue("save", () -> x.save(isIn(number, 0, 1) ? 0 : number), thrown(isIn(number, 0, 1), true));
-        if (!isIn(number, 0, 1)) {
-            wildDue("restore", () -> x.restore(number), thrown(false, true));
-        }
-        Kit.due(run + " behind all of it", Kit.everything(x), all);
-        // What can be undone is another one in both by now, until there are eight changes that are the same ones.
-        for (int i = 0; i < 8; i++) {
-            Kit.due(run + " restore", x.restore(0), model.restore(0));
-        }
+        sameCounts();
     }
 
     private void wildDue(String label, Runnable call, String due) {
         Kit.due(run + " wild " + label, Kit.thrownBy(call), due);
     }
 
-    /** Brings back what a right call changes, so that the next one begins with the same house. */
-    private void wildChange(String label, Runnable call, String due) {
-        String before = Kit.everything(x);
-        wildDue(label, call, due);
-        if (due.equals("nothing")) {
-            x.restore(0);
+    private void wildChanges() {
+        int from = wild(model.count(0));
+        int to = wild(model.count(0));
+        int need = wild(model.count(1));
+        int number = wild(4);
+        int bell = wild(3);
+        int hour = wild(24);
+        boolean isFrom = isIn(from, 0, model.count(0) - 1);
+        boolean isTo = isIn(to, 0, model.count(0) - 1);
+        boolean isNeed = isIn(need, 0, model.count(1) - 1);
+        boolean isTwo = from != to;
+        wildChange("want", thrown(isFrom && isNeed, true), y -> y.want(from, need), () -> model.want(from, need));
+        wildChange("tell", thrown(isFrom && isTo && isNeed, isTwo && isIn(number, 0, 2)),
+            y -> y.tell(from, to, need, number), () -> model.tell(from, to, need, number));
+        wildChange("give", thrown(isFrom && isTo, isTwo && isIn(number * 20, 1, 50)),
+            y -> y.give(from, to, number * 20), () -> model.give(from, to, number * 20));
+        wildChange("pass", thrown(true, isIn(hour * 5, 1, 99)), y -> y.pass(hour * 5), () -> model.pass(hour * 5));
+        wildChange("setBell", thrown(isIn(hour, 0, 23), isIn(bell, 0, 2)),
+            y -> y.setBell(hour, bell), () -> model.setBell(hour, bell));
+        wildChange("set", thrown(true, number == 2 && isIn(hour * 3, 0, 99) || number == 3 && isIn(hour * 3, 0, 50)),
+            y -> y.set(number, hour * 3), () -> model.set(number, hour * 3));
+        wildChange("save", thrown(isIn(number, 0, 1), true), y -> {
+            y.save(number);
+            return 0;
+        }, () -> {
+            model.save(number);
+            return 0;
+        });
+        if (!isIn(number, 0, 1)) {
+            wildChange("restore", thrown(false, true), y -> y.restore(number), () -> 0);
         }
-        Kit.due(run + " behind wild " + label, Kit.everything(x), before);
+    }
+
+    /** A call with any arguments: if it is a right one, the model makes it, too. */
+    private void wildChange(String label, String due, Function<Run, Object> call, Supplier<Object> modelCall) {
+        Object answer = due.equals("nothing") ? modelCall.get() : due;
+        Kit.due(run + " wild " + label, Kit.answerOf(x, call), answer);
+        sameCounts();
     }
 }
