@@ -1026,7 +1026,6 @@ public final class SilentMonks {
         }
 
         boolean readText() {
-            error = 0;
             errorAt = NONE;
             end = 0;
             told.clear();

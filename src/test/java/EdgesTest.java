@@ -20,8 +20,11 @@ public final class EdgesTest {
 
     public static void main(String[] args) {
         richHouse();
+        promise01NewObject();
         promise02Append();
+        promise02EveryByteCounts();
         promise03Load();
+        promise03LoadBehindLoad();
         promise04ErrorPosition();
         promises05And06CountAndAccount();
         promise07Monk();
@@ -31,6 +34,7 @@ public final class EdgesTest {
         promise11Why();
         promise11WhyByVoice();
         promise11WhyAtMidnight();
+        speechNowOrNot();
         promise12Gap();
         promise13MeanFast();
         promise14BreachShare();
@@ -93,6 +97,62 @@ public final class EdgesTest {
 
     // ---- setup
 
+    private static void promise01NewObject() {
+        Run x = new Run();
+        int[] counts = {1, 1, 20, 10, 0, 0, 0, 0, 0, 0, 0, 0, 0};
+        for (int what = 0; what <= 12; what++) {
+            Kit.due("1 count " + what, x.count(what), counts[what]);
+        }
+        int[] monk = {2, 0, 0, 0, 0, 0, 0, 0, 1};
+        for (int what = 0; what <= 8; what++) {
+            Kit.due("1 monk " + what, x.monk(0, what), monk[what]);
+        }
+        int[] need = {1, 0, 0, 1, 1};
+        for (int what = 0; what <= 4; what++) {
+            Kit.due("1 need " + what, x.need(0, what), need[what]);
+        }
+        for (int what = 0; what <= 13; what++) {
+            Kit.due("1 account " + what, x.account(what), 0);
+        }
+        Kit.due("1 length of the buffer", x.append(0, 0, 0, 0, 0), 0);
+        Kit.due("1 error", x.errorPosition(), SilentMonks.NONE);
+        Kit.changesNothing("1 written text", x, y -> y.writtenByte(0), INDEX);
+        Kit.changesNothing("1 slot 0", x, y -> y.restore(0), STATE);
+        Kit.changesNothing("1 slot 1", x, y -> y.restore(1), STATE);
+        Kit.changesNothing("1 undo", x, y -> y.undo(), STATE);
+        Kit.due("1 the monk", Kit.monkText(x, 0), "b:/");
+        Run twice = new Run();
+        twice.want(0, 0);
+        Kit.due("1 the need", Kit.monkText(twice, 0), "b:/a");
+    }
+
+    /** The length that would be counts each byte that is not 0, of whatever value and wherever it stands. */
+    private static void promise02EveryByteCounts() {
+        Run full = new Run();
+        Kit.append(full, Kit.padded("need a 1;elder b;", 800));
+        Run one = new Run();
+        Kit.append(one, Kit.padded("need a 1;elder b;", 799));
+        for (int place = 0; place < 20; place++) {
+            for (int bit = 0; bit < 8; bit++) {
+                byte[] bytes = new byte[20];
+                bytes[place] = (byte) (1 << bit);
+                Kit.due("2 byte " + (1 << bit) + " at " + place, Kit.answerOf(full, y -> append(y, bytes)), STATE);
+                bytes[(place + 7) % 20] = (byte) (1 << bit);
+                Kit.due("2 two of them", Kit.answerOf(one, y -> append(y, bytes)), STATE);
+                full = full.again();
+                one = one.again();
+                if (full.changingCalls() > 400) {
+                    full = new Run();
+                    Kit.append(full, Kit.padded("need a 1;elder b;", 800));
+                    one = new Run();
+                    Kit.append(one, Kit.padded("need a 1;elder b;", 799));
+                }
+            }
+        }
+        Kit.due("2 nothing was added", "" + full.append(0, 0, 0, 0, 0) + " " + one.append(0, 0, 0, 0, 0), "800 799");
+        Kit.due("2 the text is as it was", full.load() + one.load(), 2);
+    }
+
     private static void promise02Append() {
         String text = "need abcdef 00000012;elder gh;";
         for (int zero = 0; zero < 20; zero++) {
@@ -138,7 +198,7 @@ public final class EdgesTest {
     private static int append(Run x, byte[] bytes) {
         int[] four = new int[5];
         for (int i = 0; i < 20; i++) {
-            four[i / 4] = four[i / 4] << 8 | bytes[i];
+            four[i / 4] = four[i / 4] << 8 | bytes[i] & 255;
         }
         return x.append(four[0], four[1], four[2], four[3], four[4]);
     }
@@ -196,6 +256,30 @@ public final class EdgesTest {
         calls.tell(3, 2, 1, 1);
         Kit.due("3 deeds as methods", Kit.everything(text), Kit.everything(calls));
         Kit.due("3 TIME of the text alone", text.count(4), 129);
+    }
+
+    /** What an earlier text told, also one with an error, is not in the house of a later one. */
+    private static void promise03LoadBehindLoad() {
+        String large = "paper 1;grant 50;need q 20;need r 3;novice s q;brother t r;elder u q r;elder v;bell 2 speech;bell 3 silence;"
+            + "want s q;want t q;want u r;want v q;give u s 30;give v t 2;tell u v q voice;tell t s q voice;tell s u r voice;wait 2;"
+            + "tell v s q voice;wait 23;tell u s r voice;give v s 5;";
+        String[] small = {"need a 1;elder b;", "need a 5;novice b;elder c;", "need a 1;novice b;novice c;novice d;novice e;elder f;",
+            "need a 5;elder b;elder c;elder d;tell b c a voice;give c d 1;", "need a 5;elder b;elder c;give c b 1;tell b c a voice;wait 30;"};
+        for (String text : small) {
+            Run due = Kit.house(text);
+            String all = Kit.everything(due);
+            Run x = Kit.house(large);
+            Kit.load(x, text);
+            Kit.due("3 behind a larger one", Kit.everything(x), all);
+            Kit.due("3 gap behind it", x.gap(), 0);
+            Run y = new Run();
+            Kit.due("3 an error in the larger one", Kit.load(y, large + "wait 0;"), SilentMonks.VALUE_ERROR);
+            Kit.load(y, text);
+            Kit.due("3 behind one with an error", Kit.everything(y), all);
+            y.pass(99);
+            due.pass(99);
+            Kit.due("3 and days later", Kit.everything(y), Kit.everything(due));
+        }
     }
 
     private static void promise04ErrorPosition() {
@@ -424,8 +508,50 @@ public final class EdgesTest {
         Kit.due("11 silence", x.why(0, 1, 0, 2, 0), 23);
     }
 
+    /** By voice in the hours around those of speech: it is the hour now that counts. */
+    private static void speechNowOrNot() {
+        for (int bell = 1; bell <= 22; bell++) {
+            Run x = Kit.house("paper 0;need a 20;elder b;elder c;bell " + bell + " speech;bell " + (bell + 1) + " silence;wait " + bell + ";");
+            Run ahead = Kit.house("paper 0;need a 20;elder b;elder c;bell " + (bell + 1) + " speech;bell " + (bell + 2) % 24
+                + " silence;wait " + bell + ";");
+            String now = " at " + bell;
+            Kit.due("11 speech" + now, "" + x.why(0, 1, 0, 2, 0) + " " + x.why(0, 1, 0, 2, 1) + " " + x.why(0, 1, 0, 2, 2),
+                "20 " + bell + " -1");
+            Kit.due("11 silence" + now, "" + ahead.why(0, 1, 0, 2, 0) + " " + ahead.why(0, 1, 0, 2, 1) + " "
+                + ahead.why(0, 1, 0, 2, 2), "23 20 8");
+            Kit.due("23 speech" + now, x.tell(0, 1, 0, 2) + x.account(8), 0);
+            Kit.due("23 words by the bell" + now, x.account(4), 20);
+            Kit.due("23 silence" + now, ahead.tell(0, 1, 0, 2) + ahead.account(8), 16);
+            for (int i = 1; i < 12; i++) {
+                ahead.tell(0, 1, 0, 2);
+            }
+            Kit.due("11 too much fast" + now, "" + ahead.why(0, 1, 0, 2, 0) + ahead.bestWay(0, 1, 0), "5-1");
+            Kit.due("23 too much fast" + now, ahead.tell(0, 1, 0, 2), -15);
+            ahead.pass(1);
+            Kit.due("23 speech an hour later" + now, ahead.bestWay(0, 1, 0) + ahead.tell(0, 1, 0, 2), 2);
+            x.set(2, 2);
+            Kit.due("16 the bell for nothing" + now, x.bestWay(0, 1, 0), 2);
+            x.pass(1);
+            Kit.due("16 no bell an hour later" + now, x.bestWay(0, 1, 0), 1);
+        }
+        Run midnight = Kit.house("need a 20;brother b;elder c;bell 23 silence;bell 22 speech;wait 23;");
+        Kit.due("23 silence at 23", midnight.tell(0, 1, 0, 2), 4);
+        midnight.pass(1);
+        Kit.due("23 silence at 0", midnight.tell(0, 1, 0, 2), 4);
+        midnight.setBell(23, 0);
+        Kit.due("23 speech at 0 by the bell at 22", midnight.tell(0, 1, 0, 2), 0);
+        Kit.due("11 its hour", midnight.why(0, 1, 0, 2, 1), 22);
+    }
+
     private static void promise12Gap() {
         Kit.due("12 at first", new Run().gap(), 0);
+        Run all = Kit.house("grant 50;need a 9;need z 3;elder b;brother c;brother d;bell 20 speech;bell 21 silence;"
+            + "give b c 12;give b d 5;tell c b a voice;tell d b a voice;tell c d z slip;wait 20;tell d c z voice;tell c b a voice;");
+        Kit.due("12 by the bell, by leave, in a breach", "" + all.account(4) + " " + all.account(5) + " " + all.account(6), "12 14 4");
+        Kit.due("12 leave and fast that stay", "" + all.count(9) + all.count(10) + all.gap(), "310");
+        all.pass(28);
+        all.give(0, 1, 4);
+        Kit.due("12 expired, kept and given", "" + all.account(11) + all.account(9) + all.account(10) + all.gap(), "31210");
         looks("12 rich", 0, y -> y.gap());
         Run x = RICH.again();
         for (int i = 0; i < 6; i++) {
@@ -496,6 +622,8 @@ public final class EdgesTest {
         Run x = Kit.house("need a 1;need f 6;elder b;elder c;elder d;elder e;give b c 1;give b e 1;tell d b a voice;");
         Kit.due("15 fast, leave, the lowest", "" + x.ranked(0) + x.ranked(1) + x.ranked(2) + x.ranked(3), "2130");
         x.tell(3, 0, 1, 2);
+        Run leaves = Kit.house("grant 50;need a 1;elder b;elder c;elder d;elder e;give b c 4;give b d 6;give b e 5;");
+        Kit.due("15 more leave", "" + leaves.ranked(0) + leaves.ranked(1) + leaves.ranked(2) + leaves.ranked(3), "2310");
         Kit.due("15 as much fast, the lowest", "" + x.ranked(0) + x.ranked(1) + x.ranked(2) + x.ranked(3), "2310");
         x.tell(3, 0, 0, 2);
         Kit.due("15 more fast", "" + x.ranked(0) + x.ranked(1) + x.ranked(2) + x.ranked(3), "3210");
@@ -675,6 +803,8 @@ public final class EdgesTest {
         Kit.due("21 the lowest of several", Kit.house(house + "want b a;").bestHearer(), 1);
         Kit.due("21 two wants of one", Kit.house(house + "want b a;want b z;").bestHearer(), 2);
         Kit.due("21 one that who tells does not know", Kit.house(house + "want e a;").bestHearer(), 0);
+        Kit.due("21 none by who does not know it", Kit.house("need a 1;elder b;elder c a;elder d a;want b a;").bestHearer(), 0);
+        Kit.due("21 none by who hears without knowing it", Kit.house("need a 1;elder b a;elder c;elder d a;want b a;").bestHearer(), 2);
         Kit.due("21 of two monks", Kit.house(house + "want b a;want c a;").bestHearer(), 2);
         Kit.due("21 of all others", Kit.house(house + "want b z;want d z;want e z;").bestHearer(), 0);
         Kit.due("21 its own does not count", Kit.house(house + "want b a;want b z;want d a;want d z;want c a;").bestHearer(), 0);
@@ -783,6 +913,12 @@ public final class EdgesTest {
             int who = monk;
             throwsAll("24 the same, " + monk, ARGUMENT, y -> y.give(who, who, 1));
         }
+        Run one = Kit.house("need a 1;elder b;elder c;elder d;tell b c a voice;wait 24;wait 24;");
+        Kit.due("24 a fast of 1", one.monk(0, 2), 1);
+        Kit.changesNothing("24 a fast of 1 who gives", one, y -> y.give(0, 1, 1), -17);
+        Kit.changesNothing("24 a fast of 1 who is given", one, y -> y.give(1, 0, 1), -18);
+        one.pass(24);
+        Kit.due("24 no fast of both", one.give(0, 1, 1) + one.give(1, 0, 1), 2);
         for (int words = 1; words <= 50; words++) {
             Run x = Kit.house("grant " + words + ";need a 1;elder b;novice c;");
             Kit.due("24 all of the grant", x.give(0, 1, words), words);
@@ -979,6 +1115,9 @@ public final class EdgesTest {
             Kit.due("32 length at " + time, y.writeDay(), text.length());
             Kit.due("32 day at " + time, Kit.writtenText(y, text.length()), text);
             Kit.due("32 no change", y.count(4), time);
+            y.writeMonk(0);
+            Kit.due("32 in place of what was written", y.writeDay(), text.length());
+            Kit.due("32 the day again", Kit.writtenText(y, text.length()), text);
         }
         Kit.due("32 no bell", Kit.dayText(new Run()), "......................../0");
         Kit.due("32 all of speech", Kit.dayText(Kit.house("need a 1;elder b;bell 13 speech;")), "ssssssssssssssssssssssss/0");

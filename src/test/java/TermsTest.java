@@ -7,6 +7,7 @@ public final class TermsTest {
     private static final int BOUND = 24;
 
     public static void main(String[] args) {
+        manyCalls();
         monksNeedsBells();
         telling();
         leaveAndDays();
@@ -14,6 +15,20 @@ public final class TermsTest {
         refusals();
         severalReasons();
         Kit.end();
+    }
+
+    /** "An object is used for at most 512 calls after it has been made": up to the last one it answers. */
+    private static void manyCalls() {
+        Run x = new Run();
+        for (int i = 1; i <= 502; i++) {
+            Kit.due("change " + i, x.setBell(i % 24, 1 + i / 24 % 2), i <= 24 ? 0 : 2 - i / 24 % 2);
+        }
+        for (int left = 7; left >= 0; left--) {
+            Kit.due("undo behind many changes", x.undo(), left);
+        }
+        Kit.due("no more behind many changes", Kit.thrownBy(() -> x.undo()), "IllegalStateException");
+        Kit.due("the 512th call", x.count(6), 24);
+        Kit.due("objects for all of them", x.objectsUsed(), 1);
     }
 
     // ---- section 1

@@ -408,6 +408,13 @@ public final class TextErrorsTest {
                 Kit.due("a space within " + tokens[i], Kit.load(x, text.toString()) < 0, true);
             }
         }
+        reads("need a 1 ^2;elder b;", SYNTAX);
+        reads("need a 12;elder b;bell 2 ^3 speech;", SYNTAX);
+        reads("need a 12;elder b;wait 1 ^0;", SYNTAX);
+        reads("^n eed a 1;elder b;", SYNTAX);
+        reads("need a ^b 1;elder c;", SYNTAX);
+        reads("need ab 1;elder c ^a b;", UNKNOWN);
+        reads("need a 1;need b 1;need ab 1;elder c a b;", 1);
         for (int sign : new int[] {9, 10, 11, 12, 13, 160}) {
             reads("need a 1;" + "^" + (char) sign + "elder b;", SYNTAX);
             reads("^" + (char) sign + "need a 1;elder b;", SYNTAX);
