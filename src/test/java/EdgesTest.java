@@ -534,6 +534,12 @@ public final class EdgesTest {
             x.pass(1);
             Kit.due("16 no bell an hour later" + now, x.bestWay(0, 1, 0), 1);
         }
+        Run day = Kit.house("grant 50;need a 20;elder b;elder c;novice d;bell 0 speech;bell 3 silence;wait 5;wait 24;give c d 4;");
+        Kit.due("11 silence behind the speech of the morning, without leave",
+            "" + day.why(0, 1, 0, 2, 0) + " " + day.why(0, 1, 0, 2, 1) + " " + day.why(0, 1, 0, 2, 2), "23 20 8");
+        Kit.due("11 in part by leave then",
+            "" + day.why(2, 1, 0, 2, 0) + " " + day.why(2, 1, 0, 2, 1) + " " + day.why(2, 1, 0, 2, 2), "22 4 4");
+        Kit.due("23 by voice then", "" + day.tell(0, 1, 0, 2) + day.tell(2, 1, 0, 2) + day.account(4), "840");
         Run midnight = Kit.house("need a 20;brother b;elder c;bell 23 silence;bell 22 speech;wait 23;");
         Kit.due("23 silence at 23", midnight.tell(0, 1, 0, 2), 4);
         midnight.pass(1);
